@@ -48,6 +48,7 @@ public final class PromisesTest {
 
     private void answers() {
         answersOfRules();
+        answersOfAll();
         answersOfSums();
         answersOfChoices();
         answersOfExternals();
@@ -754,11 +755,23 @@ public final class PromisesTest {
         due("anew", x::groundAnew, 421);
         x.external(0, 8, 0);
         due("with an external", () -> x.ground() + " " + x.groundAnew(), "530 530");
+        x.weak(0, 0);
+        x.body(0, -1, 0, false);
+        x.body(0, 20, 0, false);
+        x.enter();
+        due("with pairs one apart", () -> x.groundAnew() + " " + x.groundAnew(), "533 533");
         due("it leaves the numbers", () -> x.atom(0, 8, 0) + " " + x.instance(0), "4 1000");
         x.head(0, 0, 0);
         x.body(0, 9, 0, false);
         x.enter();
-        due("no instance", x::groundAnew, 530);
+        due("no instance", x::groundAnew, 533);
+        begin(19, 1, 0);
+        x.external(0, 9, 0);
+        x.head(1, 0, 0);
+        x.body(0, -1, 0, false);
+        x.enter();
+        due("by an external alone", x::groundAnew, 201);
+        due("of the constant 9", () -> x.instance(0), 9000);
     }
 
     private void instance() {
@@ -827,6 +840,38 @@ public final class PromisesTest {
         due("weak costs rule out none", this::all, "0 1 2 3");
         promise = 22;
         due("anew", x::answersAnew, 4);
+        x.body(1, 0, 0, false);
+        x.enter();
+        due("anew, not asked before", x::answersAnew, 2);
+        due("and asked behind", this::all, "0 1");
+    }
+
+    /** 12 atoms, of which each may be so or not: what is told of the last ones, and of the last sets. */
+    private void answersOfAll() {
+        begin(21, 2);
+        x.head(0, -1, -2);
+        x.choice(0, 1);
+        x.interval(0, 1, 3);
+        x.interval(1, 1, 4);
+        x.enter();
+        due("all sets", x::answers, 4096);
+        due("the last one", () -> x.answer(4095), 4095);
+        x.body(0, 2, 4, false);
+        x.body(0, 3, 4, true);
+        x.enter();
+        due("without those with 7, but not 11", x::answers, 3072);
+        x.body(0, 1, 1, false);
+        x.body(0, 3, 3, false);
+        x.enter();
+        due("without those with 0 and 10", x::answers, 2304);
+        due("the last one, without 0", () -> x.answer(2303), 4094);
+        promise = 22;
+        due("anew", x::answersAnew, 2304);
+        promise = 24;
+        due("7", () -> x.assuming(128, 0), 768);
+        promise = 28;
+        due("seen through all", () -> x.projected(4095), 2304);
+        due("seen through the last 4", () -> x.projected(4095 - 255), 16);
     }
 
     private void answersOfSums() {
@@ -846,14 +891,39 @@ public final class PromisesTest {
         x.element(-HIGH, 0, -5, 0);
         x.enter();
         due("each element counts, beyond ints", this::all, "0 2 4");
+        x.sum(-2, -2);
+        x.element(HIGH, 0, 2, 0);
+        x.element(HIGH, 0, -5, 0);
+        x.enter();
+        due("far above is not below", this::all, "0 2 4");
+        x.sum(0, 0);
+        x.element(LOW, 0, 3, 0);
+        x.element(LOW, 0, 3, 0);
+        x.element(1, 0, 1, 0);
+        x.element(1, 0, 2, 0);
+        x.head(1, 0, 0);
+        x.enter();
+        due("twice the least is not 0", this::all, "2 4 8");
+        rule(-1, needs(1));
+        due("and so it is left", this::all, "2 4");
+        begin(21, 1, 0);
+        for (int atom = 1; atom <= 3; atom++) {
+            x.head(0, atom, 0);
+            x.choice(0, 1);
+            x.enter();
+        }
         x.sum(LOW, -2);
         x.element(LOW, 0, 2, 0);
         x.element(LOW, 0, 2, 0);
         x.enter();
-        due("beyond the least", this::all, "0 2 4");
+        due("beyond the least", this::all, "0 1 2 3 4 5 6 7");
         x.head(0, 4, 0);
         x.enter();
-        due("an atom that comes later counts, too", this::all, "8 15");
+        due("an atom that comes later counts not", x::answers, 8);
+        x.sum(-1, 0);
+        x.element(-1, 0, -5, 0);
+        x.enter();
+        due("an atom that comes later counts, too", this::all, "9 10 11 12 13 14 15");
         begin(21, 2, 0);
         x.head(0, 1, 1);
         x.enter();
@@ -864,6 +934,17 @@ public final class PromisesTest {
         x.element(1, 0, -5, -5);
         x.enter();
         due("Z is the same in both places", this::all, "7");
+        begin(21, 2, 0);
+        x.head(0, 9, 0);
+        x.head(0, 0, 9);
+        x.choice(0, 3);
+        x.enter();
+        x.head(1, 0, 0);
+        x.sum(5, 6);
+        x.element(2, 0, -5, 0);
+        x.element(3, 0, 0, -5);
+        x.enter();
+        due("Z is 0 to 9, in either place", this::all, "0 1 2 7");
         begin(21, 0, 0);
         x.head(0, 0, 0);
         x.sum(0, 0);
@@ -1116,6 +1197,11 @@ public final class PromisesTest {
     }
 
     private void braveAndCautious() {
+        begin(29, 0, 0, 0);
+        choose(1, 1, 0, 1, 2);
+        due("of each answer some", x::brave, 7);
+        promise = 30;
+        due("of all answers none", x::cautious, 0);
         begin(29, 0, 0, 0, 0);
         rule(0, needs());
         free(1, 2);
@@ -1236,6 +1322,33 @@ public final class PromisesTest {
         due("by a difference", () -> x.bar(0), 1);
         rule(1, needs(0), 0);
         due("nothing comes without an instance", () -> x.bar(0), 1);
+        begin(33, 0, 0);
+        differ(0, 1, -1, 0);
+        rule(0, needs(), 1);
+        differ(0, 1, -1, 0);
+        differ(1, 0, 0, 0);
+        due("the one that is in both rings", () -> x.bar(0) + " " + x.answers(), "3 0");
+        begin(33, 0, 0);
+        x.weak(1, 0);
+        x.enter();
+        differ(0, 1, -1, -1);
+        free(0);
+        differ(1, 0, 0, 0);
+        due("no weak cost is in the way", () -> x.bar(0), 1);
+        rule(-1, needs(0));
+        due("a constraint, too: no single one", () -> x.bar(0), -2);
+        begin(33, 0, 0);
+        differ(0, 1, -1, -1);
+        free(0);
+        differ(1, 0, 0, 0);
+        due("the very first", () -> x.bar(0), 0);
+        begin(33, 0, 0);
+        free(0);
+        differ(0, 1, 0, 0);
+        differ(1, 0, -1, 0);
+        differ(2, 3, -1, 0);
+        differ(3, 2, 0, 0);
+        due("two rings: no single one", () -> x.bar(0), -2);
         begin(33, 0, 0);
         x.external(0, 0, 0);
         due("an external that is false", () -> x.bar(0), -2);

@@ -16,6 +16,7 @@ public final class RandomRunsTest {
     private int predicates;
     private int width;
     private int oddity;
+    private int flavor;
     private boolean isWrong;
 
     private RandomRunsTest(Checks checks, int run, TreeMap<String, Integer> seen) {
@@ -27,7 +28,7 @@ public final class RandomRunsTest {
 
     public static void main(String[] args) {
         Checks checks = new Checks("RandomRunsTest");
-        int runs = args.length > 0 ? Integer.parseInt(args[0]) : 1500;
+        int runs = args.length > 0 ? Integer.parseInt(args[0]) : 3000;
         TreeMap<String, Integer> seen = new TreeMap<>();
         for (int run = 0; run < runs; run++) {
             new RandomRunsTest(checks, run, seen).go();
@@ -73,7 +74,8 @@ public final class RandomRunsTest {
     private void go() {
         width = 1 + below(4);
         oddity = oneIn(3) ? 12 : 60;
-        int longest = 30 + below(330);
+        flavor = below(8);
+        int longest = oneIn(10) ? 512 : 30 + below(330);
         int first = 1 + below(4);
         for (int i = 0; i < first; i++) {
             addPredicate();
@@ -122,7 +124,7 @@ public final class RandomRunsTest {
     }
 
     private void rule() {
-        switch (below(12)) {
+        switch (flavor < 4 && oneIn(3) ? flavor : below(12)) {
             case 0 -> difference();
             case 1 -> weak();
             case 2 -> sameDone("drop()", StableFoundry::drop, Reference::drop);
@@ -136,7 +138,7 @@ public final class RandomRunsTest {
         for (int i = below(3); i > 0; i--) {
             body(oneIn(2));
         }
-        if (oneIn(4)) {
+        if (oneIn(flavor == 4 ? 2 : 4)) {
             sum();
         }
         for (int i = oneIn(3) ? 1 + below(3) : 0; i > 0; i--) {
@@ -264,7 +266,7 @@ public final class RandomRunsTest {
     }
 
     private void element() {
-        int weight = oneIn(4) ? ODD[below(ODD.length)] : below(7) - 3;
+        int weight = oneIn(4) ? ODD[ODD.length - 1 - below(2)] : below(7) - 3;
         int predicate = anyPredicate();
         int first = term(predicate, 0, 2);
         int second = term(predicate, 1, 2);
