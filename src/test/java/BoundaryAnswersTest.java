@@ -52,6 +52,19 @@ public final class BoundaryAnswersTest extends Boundaries {
         given().answers(-1, f -> StableFoundry.NONE);
     }
 
+    @Sentence("answers are found that are stable by definition, under assumptions, with externals that come and go;")
+    void text_answers_asExternalsComeAndGo() {
+        Given lamp = given(0, 0, 0).and(f -> f.external(0, 0, 0)).and(f -> rule(f, 1, 0))
+                .and(f -> f.body(1, 0, 0, true)).and(f -> rule(f, 2));
+        lamp.answers("4", Boundaries::sets);
+        Given on = lamp.and(f -> f.assign(0, 1));
+        on.answers("3", Boundaries::sets);
+        on.and(f -> f.assign(0, 0)).answers("4", Boundaries::sets);
+        Given free = on.and(f -> f.assign(0, 2));
+        free.answers("3 4", Boundaries::sets);
+        free.answers("1 1 0", f -> f.assuming(2, 4) + " " + f.assuming(4, 2) + " " + f.assuming(6, 0));
+    }
+
     // ---- answers
 
     @Sentence("A set of possible atoms is told as bits, by their numbers.")
@@ -133,6 +146,20 @@ public final class BoundaryAnswersTest extends Boundaries {
         external.answers(0, f -> f.assign(0, 0));
         external.and(f -> f.assign(0, 1)).answers("1", Boundaries::sets);
         external.and(f -> f.assign(0, 2)).answers("0 1", Boundaries::sets);
+    }
+
+    /** Three atoms, each so or not, and a draft that asks for the third of them. */
+    private Given ifTheThirdIsSo() {
+        return given(0, 0, 0).and(f -> free(f, 0, 1, 2)).and(f -> f.body(2, 0, 0, false));
+    }
+
+    @Sentence("A set satisfies an instance if its body does not hold in it, or: it has no head, no: then it is not satisfied; one of its head atoms is so; it is a choice, and as many of its atoms are so as it tells")
+    void text_satisfies_whereTheBodyDoesNotHold_whateverTheHead() {
+        ifTheThirdIsSo().and(StableFoundry::enter).answers("0 1 2 3", Boundaries::sets);
+        ifTheThirdIsSo().and(f -> f.head(0, 0, 0)).and(f -> rule(f, 1)).answers("0 1 2 3 5 6 7", Boundaries::sets);
+        ifTheThirdIsSo().and(f -> choose(f, 2, 2, 0, 1)).answers("0 1 2 3 7", Boundaries::sets);
+        ifTheThirdIsSo().and(f -> choose(f, 1, 1, 0, 1)).answers("0 1 2 3 5 6", Boundaries::sets);
+        ifTheThirdIsSo().and(f -> weakOf(f, 1, 0)).answers("0 1 2 3 4 5 6 7", Boundaries::sets);
     }
 
     @Sentence("it has no head, no: then it is not satisfied; one of its head atoms is so;")
@@ -470,7 +497,7 @@ public final class BoundaryAnswersTest extends Boundaries {
 
     // ---- promise 25
 
-    @Sentence(promise = 25, value = "as few of them as possible that no answer meets all;")
+    @Sentence(promise = 25, value = "Returns the least conflict of assumptions: as few of them as possible that no answer meets all;")
     void conflict_asFewAsPossible() {
         six().answers(3, f -> f.conflict(7, 0));
         six().answers(12, f -> f.conflict(13, 2));

@@ -8,6 +8,61 @@ public final class BoundaryAtomsTest extends Boundaries {
         new BoundaryAtomsTest().run();
     }
 
+    // ---- what is told
+
+    /** A rule of each kind, by its number: what the sentence names, in its order. */
+    private static void draftOfKind(StableFoundry f, int kind) {
+        switch (kind) {
+            case 0 -> f.head(0, -1, 0);
+            case 1 -> f.compare(2, -1, 1);
+            case 2 -> {
+                f.sum(0, 0);
+                f.element(1, 2, -1, Z);
+            }
+            case 3 -> {
+                f.head(1, -1, 0);
+                f.choice(0, 1);
+            }
+            case 4 -> {
+                f.head(1, -1, 0);
+                f.head(1, 20, 0);
+            }
+            case 5 -> f.weak(3, 1);
+            default -> f.difference(0, 1, -2);
+        }
+        f.interval(0, 0, 1);
+        f.body(1, 20, 0, true);
+    }
+
+    @Sentence("Rules with variables, intervals, comparisons, sums, choices, disjunctions, weak costs and differences are grounded as they are entered, nothing twice;")
+    void text_rulesOfAllKinds_areGroundedAsTheyAreEntered() {
+        int[] due = {202, 1, 2, 202, 302, 2, 2};
+        for (int number = 0; number < due.length; number++) {
+            int kind = number;
+            Given draft = given(1, 1, 2).and(f -> draftOfKind(f, kind));
+            draft.answers(0, StableFoundry::ground);
+            Given entered = draft.and(StableFoundry::enter);
+            entered.answers(due[kind], StableFoundry::ground);
+            entered.answers(kind == 1 ? "0" : "0 1000", Boundaries::instances);
+            entered.and(f -> draftOfKind(f, kind)).and(StableFoundry::enter)
+                    .answers(due[kind] + due[kind] % 100, StableFoundry::ground);
+        }
+    }
+
+    @Sentence("Rules with variables, intervals, comparisons, sums, choices, disjunctions, weak costs and differences are grounded as they are entered, nothing twice;")
+    void text_rulesOfAllKinds_together_nothingTwice() {
+        Given all = given(1, 1, 2).and(f -> {
+            for (int kind = 0; kind < 7; kind++) {
+                draftOfKind(f, kind);
+                f.enter();
+            }
+        });
+        all.answers("0 1000 10000 20000 21000 30000 31000 40000 41000 50000 51000 60000 61000",
+                Boundaries::instances);
+        all.answers("513 513", f -> f.ground() + " " + f.groundAnew());
+        all.and(f -> f.external(1, 9, 0)).answers("613 613", f -> f.ground() + " " + f.groundAnew());
+    }
+
     // ---- atoms and rules
 
     @Sentence("Predicates are numbered from 0, at most 6; a predicate has 0 to 2 places.")
@@ -76,6 +131,21 @@ public final class BoundaryAtomsTest extends Boundaries {
     private static void pinned(StableFoundry f, int variable, int constant) {
         f.compare(0, -1 - variable, constant);
         f.interval(variable, 0, 9);
+    }
+
+    /** The one atom of a head with this term, the variable 0 being 3. */
+    private void headAtom(int term, int constant) {
+        given(1).and(f -> f.head(0, term, 0)).and(f -> f.interval(0, 3, 3)).and(StableFoundry::enter)
+                .answers("101 0", f -> f.ground() + " " + f.atom(0, constant, 0));
+    }
+
+    @Sentence("A term is a constant, 0 to 9; a variable; or a variable and 1,")
+    void text_terms_aConstantIsItself_aVariableItsConstant_aRaisedOneTheNext() {
+        for (int constant = 0; constant < 10; constant++) {
+            headAtom(constant, constant);
+        }
+        headAtom(-1, 3);
+        headAtom(20, 4);
     }
 
     @Sentence("or a variable and 1, told as 20 for the variable 0 and 1, added, up to 23 for the variable 3")
@@ -251,6 +321,20 @@ public final class BoundaryAtomsTest extends Boundaries {
         f.enter();
     }
 
+    @Sentence("A sum has elements, at most 4, each a weight and an atom, in which Z may stand (for all constants, each giving an element), and a least and a greatest value: it holds")
+    void text_sum_ofNoElement_andOf4_eachWithItsWeight() {
+        Given free = given(0, 0, 0, 0).and(f -> free(f, 0, 1, 2, 3));
+        free.and(f -> f.sum(0, 0)).and(StableFoundry::enter).answers("", Boundaries::sets);
+        free.and(f -> f.sum(1, HIGH)).and(StableFoundry::enter).answers(16, StableFoundry::answers);
+        Given four = free.and(f -> f.sum(5, 9)).and(f -> {
+            for (int predicate = 0; predicate < 4; predicate++) {
+                f.element(1 << predicate, predicate, 0, 0);
+            }
+        });
+        four.and(StableFoundry::enter).answers("0 1 2 3 4 10 11 12 13 14 15", Boundaries::sets);
+        four.refuses(STATE, f -> f.element(1, 0, 0, 0));
+    }
+
     /** Whether a sum of 5 from an atom that is so holds within such bounds. */
     private void five(String due, int least, int greatest) {
         given(0, 0).and(f -> rule(f, 0)).and(f -> f.sum(least, greatest)).and(f -> f.element(5, 0, 0, 0))
@@ -371,6 +455,17 @@ public final class BoundaryAtomsTest extends Boundaries {
         given(0).and(f -> f.body(0, 0, 0, true)).and(StableFoundry::enter).answers(-1, f -> f.atom(0, 0, 0));
         given(0, 0).and(f -> rule(f, 0, 1)).answers(-1, f -> f.atom(0, 0, 0));
         given(2).and(f -> element(f, 0, 0)).and(StableFoundry::enter).answers(-1, f -> f.atom(0, 0, 0));
+    }
+
+    @Sentence("When a rule is entered, all rules are gone through, by rising numbers,")
+    void text_entering_theEarlierRulesAreGoneThroughFirst() {
+        Given draft = given(0, 0, 0).and(f -> rule(f, 2, 0)).and(f -> f.head(0, 0, 0)).and(f -> f.head(1, 0, 0));
+        draft.answers(0, StableFoundry::ground);
+        draft.and(StableFoundry::enter).answers("10000 0", Boundaries::instances);
+        draft.and(StableFoundry::enter).answers("0 1 2", BoundaryAtomsTest::numbers);
+        Given waiting = given(0, 0, 0).and(f -> rule(f, 1, 0)).and(f -> rule(f, 2, 0));
+        waiting.and(f -> rule(f, 0)).answers("20000 0 10000", Boundaries::instances);
+        waiting.and(f -> rule(f, 0)).answers("0 1 2", BoundaryAtomsTest::numbers);
     }
 
     @Sentence("all rules are gone through, by rising numbers, each with all constants for its variables, the lowest variable counting most, by rising constants")

@@ -27,6 +27,34 @@ public final class BoundaryReasonsTest extends Boundaries {
         twelve().answers(INDEX, f -> call.on(f, 12));
     }
 
+    // ---- what is told
+
+    /** One of the atoms 0 and 1 is so; 2 and 3 hang on one another; 0 costs 5 at the level 1, 1 costs 5 at 2. */
+    private Given told() {
+        return given(0, 0, 0, 0).and(f -> choose(f, 1, 1, 0, 1)).and(f -> rule(f, 2, 3)).and(f -> f.external(2, 0, 0))
+                .and(f -> rule(f, 3, 2)).and(f -> weakOf(f, 5, 1, 0)).and(f -> weakOf(f, 5, 2, 1));
+    }
+
+    @Sentence("costs by levels, preferences, projections, brave and cautious consequences, least conflicting assumptions, loops, unfounded sets, supports and why something cannot be are told.")
+    void text_told_costsPreferencesProjectionsAndConsequences() {
+        told().answers("1 2", Boundaries::sets);
+        told().answers("5 0 0 5", f -> f.cost(0, 1) + " " + f.cost(0, 2) + " " + f.cost(1, 1) + " " + f.cost(1, 2));
+        told().answers("20", Boundaries::ranks);
+        Given even = told().and(f -> weakOf(f, -5, 2, 1)).and(f -> weakOf(f, 5, 1, 1));
+        even.answers("22", Boundaries::ranks);
+        even.and(f -> f.prefer(1, 0)).answers("12", Boundaries::ranks);
+        told().answers("2 1 3 0", f -> f.projected(1) + " " + f.projected(12) + " " + f.brave() + " " + f.cautious());
+    }
+
+    @Sentence("costs by levels, preferences, projections, brave and cautious consequences, least conflicting assumptions, loops, unfounded sets, supports and why something cannot be are told.")
+    void text_told_conflictsLoopsUnfoundedSetsSupportsAndBars() {
+        told().answers("3 4", f -> f.conflict(3, 4) + " " + f.conflict(4, 3));
+        told().answers("0 12 12", f -> f.loop(0) + " " + f.loop(2) + " " + f.loop(3));
+        told().answers("0 12 12", f -> f.unfounded(1) + " " + f.unfounded(13) + " " + f.unfounded(15));
+        told().answers("0 0 -1", f -> f.support(0, 0) + " " + f.support(1, 1) + " " + f.support(0, 1));
+        told().and(f -> ban(f, 1)).answers("5 -2", f -> f.bar(1) + " " + f.bar(2));
+    }
+
     // ---- loops
 
     @Sentence("An atom hangs on another one if an instance has it in its head, and the other one among the atoms that have to be so.")

@@ -923,7 +923,7 @@ public final class BoundaryRulesTest extends Boundaries {
         choice.and(f -> f.head(0, 0, 0)).answers(0, StableFoundry::enter);
     }
 
-    @Sentence(promise = 13, value = "if there are 20 rules, or there would be more than 12 atoms or 60 instances")
+    @Sentence(promise = 13, value = "Throws `IllegalStateException` if there are 20 rules, or there would be more than 12 atoms or 60 instances")
     void enter_the20thRule_isLetIn_theNextRefused() {
         Given full = given(0).and(f -> enterWeak(f, 19));
         full.answers(19, StableFoundry::enter);
@@ -932,7 +932,7 @@ public final class BoundaryRulesTest extends Boundaries {
         draft.refuses(STATE, StableFoundry::enter);
     }
 
-    @Sentence(promise = 13, value = "if there are 20 rules, or there would be more than 12 atoms or 60 instances")
+    @Sentence(promise = 13, value = "Throws `IllegalStateException` if there are 20 rules, or there would be more than 12 atoms or 60 instances")
     void enter_the12thAtom_isLetIn_the13thRefused() {
         Given ten = given(1, 1).and(f -> freeRow(f, 0, 0, 9)).and(f -> f.head(1, -1, 0));
         ten.and(f -> f.interval(0, 0, 1)).answers("1 1212", f -> f.enter() + " " + f.ground());
@@ -943,7 +943,7 @@ public final class BoundaryRulesTest extends Boundaries {
         twelve.and(f -> f.head(1, 2, 0)).refuses(STATE, StableFoundry::enter);
     }
 
-    @Sentence(promise = 13, value = "if there are 20 rules, or there would be more than 12 atoms or 60 instances")
+    @Sentence(promise = 13, value = "Throws `IllegalStateException` if there are 20 rules, or there would be more than 12 atoms or 60 instances")
     void enter_the13thAtom_withinAHead() {
         Given eleven = given(1, 1).and(f -> freeRow(f, 0, 0, 9)).and(f -> fact(f, 1, 0, 0)).and(f -> f.head(1, 1, 0));
         eleven.answers("2 1212", f -> f.enter() + " " + f.ground());
@@ -959,7 +959,7 @@ public final class BoundaryRulesTest extends Boundaries {
         f.enter();
     }
 
-    @Sentence(promise = 13, value = "if there are 20 rules, or there would be more than 12 atoms or 60 instances")
+    @Sentence(promise = 13, value = "Throws `IllegalStateException` if there are 20 rules, or there would be more than 12 atoms or 60 instances")
     void enter_tooManyAtoms_byWhatOtherRulesBring() {
         Given two = given(1, 1).and(BoundaryRulesTest::chain).and(f -> freeRow(f, 1, 0, 1));
         two.and(f -> f.head(0, 0, 0)).answers("2 1212", f -> f.enter() + " " + f.ground());
@@ -968,7 +968,7 @@ public final class BoundaryRulesTest extends Boundaries {
         three.and(f -> f.head(0, 1, 0)).answers("2 1212", f -> f.enter() + " " + f.ground());
     }
 
-    @Sentence(promise = 13, value = "if there are 20 rules, or there would be more than 12 atoms or 60 instances")
+    @Sentence(promise = 13, value = "Throws `IllegalStateException` if there are 20 rules, or there would be more than 12 atoms or 60 instances")
     void enter_the60thInstance_isLetIn_the61stRefused() {
         Given none = given(0).and(f -> draftTimes(f, 6, 10));
         none.answers("0 60", f -> f.enter() + " " + f.ground());
@@ -982,7 +982,7 @@ public final class BoundaryRulesTest extends Boundaries {
         full.and(f -> f.compare(1, 0, 0)).answers("1 60", f -> f.enter() + " " + f.ground());
     }
 
-    @Sentence(promise = 13, value = "if there are 20 rules, or there would be more than 12 atoms or 60 instances")
+    @Sentence(promise = 13, value = "Throws `IllegalStateException` if there are 20 rules, or there would be more than 12 atoms or 60 instances")
     void enter_tooManyInstances_byWhatOtherRulesBring() {
         Given waiting = given(0).and(f -> f.body(0, 0, 0, false)).and(f -> draftTimes(f, 7, 8))
                 .and(StableFoundry::enter);
@@ -993,7 +993,7 @@ public final class BoundaryRulesTest extends Boundaries {
         four.refuses(STATE, StableFoundry::enter);
     }
 
-    @Sentence(promise = 13, value = "if there are 20 rules, or there would be more than 12 atoms or 60 instances")
+    @Sentence(promise = 13, value = "Throws `IllegalStateException` if there are 20 rules, or there would be more than 12 atoms or 60 instances")
     void enter_refusedDraft_isLeft_andCanBeMadeFit() {
         given(0).and(f -> weakOf(f, 1, 0)).and(f -> draftTimes(f, 6, 10)).and(f -> told(f, StableFoundry::enter))
                 .and(f -> f.interval(1, 0, 8)).answers("1 55", f -> f.enter() + " " + f.ground());

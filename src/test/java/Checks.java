@@ -1,3 +1,6 @@
+import java.io.ByteArrayOutputStream;
+import java.io.PrintStream;
+
 /** What the tests share: calls told as what they answer or throw, and a count of those that are wrong. */
 final class Checks {
     private final String test;
@@ -30,6 +33,19 @@ final class Checks {
             call.call();
             return "done";
         });
+    }
+
+    /** What a call prints, its lines ended alike on every machine. */
+    static String printed(Doing call) {
+        PrintStream usual = System.out;
+        ByteArrayOutputStream bytes = new ByteArrayOutputStream();
+        System.setOut(new PrintStream(bytes, true));
+        try {
+            call.call();
+        } finally {
+            System.setOut(usual);
+        }
+        return bytes.toString().replace(System.lineSeparator(), "\n");
     }
 
     void due(String what, Object got, Object want) {
